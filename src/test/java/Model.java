@@ -409,7 +409,8 @@ public final class Model {
             case 0 -> m;
             case 1 -> work[r][c];
             case 2 -> hard[r][c] ? 1 : 0;
-            case 3 -> (int) neighbours(r, c).stream().mapToInt(n -> mark[n[0]][n[1]]).filter(o -> o != 0 && o != m).count();
+            case 3 -> (int) neighbours(r, c).stream().mapToInt(n -> mark[n[0]][n[1]])
+                    .filter(o -> o != 0 && o != m).count();
             case 4 -> labels(1)[r][c];
             default -> neighbours(r, c).stream().mapToInt(n -> misfit[m][mark[n[0]][n[1]]]).sum();
         };

@@ -8,7 +8,7 @@ import java.util.Random;
 
 /** Runs of calls by chance (the same ones each time): the class and the Model must answer the same. */
 public final class ModelTest {
-    private static final int RUNS = 400;
+    private static final int RUNS = 200;
     private static final int CALLS = 60;
 
     private ModelTest() {
@@ -41,7 +41,8 @@ public final class ModelTest {
             Object[] arguments = arguments(method, real, chance);
             told.append(' ').append(method.getName()).append(Arrays.toString(arguments));
             Object want = answer(model, method, arguments);
-            Object got = answer(real, Grainwright.class.getMethod(method.getName(), method.getParameterTypes()), arguments);
+            Method same = Grainwright.class.getMethod(method.getName(), method.getParameterTypes());
+            Object got = answer(real, same, arguments);
             if (!want.equals(got)) {
                 Check.tell(told + " answered " + got + ", due is " + want);
                 return;

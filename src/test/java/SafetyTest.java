@@ -1,0 +1,142 @@
+import java.lang.management.ManagementFactory;
+import java.lang.reflect.InvocationTargetException;
+import java.lang.reflect.Method;
+import java.util.ArrayList;
+import java.util.Arrays;
+import java.util.Comparator;
+import java.util.List;
+import java.util.Random;
+
+/**
+ * What holds for all methods: an answer or an exception that the document names, whatever is asked;
+ * one that throws, or only asks, changes nothing; and calls make next to no objects.
+ */
+public final class SafetyTest {
+    private static final int[] EDGES = {Integer.MIN_VALUE, -1, 0, 1, 2, 3, 5, 8, 9, 10, 19, 20, 21, 63, 64, 65, 215,
+        999, 1000, 6400, 1 << 29, 1 << 30, Integer.MAX_VALUE - 1, Integer.MAX_VALUE};
+    private static final List<String> CHANGING = List.of("lattice", "seed", "mark", "pin", "work", "misfit", "etch",
+            "heat", "roll", "born", "curve", "cool", "soften", "furnace");
+
+    private SafetyTest() {
+    }
+
+    public static void main(String[] args) throws ReflectiveOperationException {
+        Random chance = new Random(58288L);
+        for (int run = 0; run < 300; run++) {
+            runAtTheEdges(run, chance);
+        }
+        for (Method method : face()) {
+            countRoom(method);
+        }
+        Check.end("SafetyTest");
+    }
+
+    private static List<Method> face() {
+        List<Method> face = new ArrayList<>(Arrays.asList(Grainwright.class.getDeclaredMethods()));
+        face.removeIf(m -> !java.lang.reflect.Modifier.isPublic(m.getModifiers()));
+        face.sort(Comparator.comparing(Method::getName));
+        return face;
+    }
+
+    /** All that can be told of an object, what digest() leaves out (MISFITS, CURVE, and ETCH), too. */
+    private static String state(Grainwright x) {
+        StringBuilder text = new StringBuilder();
+        text.append(x.digest()).append(x.picture()).append(x.etched());
+        for (int degree = 0; degree <= 9; degree++) {
+            int time = x.curve(degree, 1);
+            x.curve(degree, time);
+            text.append(' ').append(time);
+        }
+        for (int one = 1; one <= 9; one++) {
+            for (int other = one + 1; other <= 9; other++) {
+                int misfit = x.misfit(one, other, 1);
+                x.misfit(one, other, misfit);
+                text.append(' ').append(misfit);
+            }
+        }
+        return text.toString();
+    }
+
+    private static void runAtTheEdges(int run, Random chance) throws ReflectiveOperationException {
+        List<Method> face = face();
+        Grainwright x = new Grainwright();
+        for (int call = 0; call < 60; call++) {
+            if (call % 15 == 3) {
+                x.lattice(2 + chance.nextInt(7), 2 + chance.nextInt(7), 1 + chance.nextInt(9));
+            }
+            Method method = face.get(chance.nextInt(face.size()));
+            Object[] arguments = new Object[method.getParameterCount()];
+            for (int k = 0; k < arguments.length; k++) {
+                boolean isNumber = method.getParameterTypes()[k] == int.class;
+                arguments[k] = isNumber ? (Object) EDGES[chance.nextInt(EDGES.length)] : (Object) chance.nextBoolean();
+            }
+            callAndLook("run " + run + ": " + method.getName() + Arrays.toString(arguments), x, method, arguments);
+        }
+    }
+
+    private static void callAndLook(String told, Grainwright x, Method method, Object[] arguments)
+            throws ReflectiveOperationException {
+        String before = state(x);
+        boolean isChanging = CHANGING.contains(method.getName());
+        try {
+            method.invoke(x, arguments);
+        } catch (InvocationTargetException e) {
+            isChanging = false;
+            Throwable thrown = e.getCause();
+            if (!Arrays.asList(method.getExceptionTypes()).contains(thrown.getClass()) || thrown.getMessage() != null) {
+                Check.tell(told + " throws " + thrown);
+            }
+        }
+        if (!isChanging && !before.equals(state(x))) {
+            Check.tell(told + " changes something");
+        }
+        if (!x.isSound()) {
+            Check.tell(told + " leaves it unsound");
+        }
+    }
+
+    private static Object[] dearArguments(Method method) {
+        return switch (method.getName()) {
+            case "lattice" -> new Object[] {8, 8, 9};
+            case "seed", "pin", "etch", "texture", "sided", "ofGrain", "metal" -> new Object[] {1, 1};
+            case "mark", "work", "change", "ofCell" -> new Object[] {9, 1};
+            case "misfit" -> new Object[] {1, 2, 3};
+            case "heat" -> new Object[] {9, 12};
+            case "roll", "born" -> new Object[] {9};
+            case "curve" -> new Object[] {9, 1};
+            case "cool" -> new Object[] {9, 0, 50};
+            case "furnace" -> new Object[] {215};
+            case "wall" -> new Object[] {1, 2};
+            case "line" -> new Object[] {1, true};
+            case "wouldHeat" -> new Object[] {9, 4, 8};
+            case "best" -> new Object[] {6400, true};
+            case "least" -> new Object[] {15, true};
+            case "wouldCool" -> new Object[] {9, 0, 64};
+            default -> new Object[] {};
+        };
+    }
+
+    /** 512 calls on one object: reflection and boxing take some of the room that is counted here. */
+    private static void countRoom(Method method) throws ReflectiveOperationException {
+        Grainwright x = new Grainwright();
+        x.lattice(8, 8, 9);
+        Object[] arguments = Arrays.copyOf(dearArguments(method), method.getParameterCount());
+        for (int k = 0; k < 2 && method.getName().equals("pin"); k++) {
+            x.pin(k + 8);
+        }
+        if (method.getName().equals("pin")) {
+            return;
+        }
+        com.sun.management.ThreadMXBean threads =
+                (com.sun.management.ThreadMXBean) ManagementFactory.getThreadMXBean();
+        method.invoke(x, arguments);
+        long before = threads.getThreadAllocatedBytes(Thread.currentThread().getId());
+        for (int call = 0; call < 512; call++) {
+            method.invoke(x, arguments);
+        }
+        long taken = threads.getThreadAllocatedBytes(Thread.currentThread().getId()) - before;
+        if (taken > 512L * 2000L) {
+            Check.tell("512 calls of " + method.getName() + " took " + taken + " bytes");
+        }
+    }
+}
