@@ -24,7 +24,8 @@ public final class FormTest {
             "int wouldCool(int, int, int)", "boolean isSound()", "long digest()");
     private static final List<String> FORBIDDEN = List.of("->", "::", "\\bcatch\\b", "\\btry\\b", "\\bfinally\\b",
             "\\bassert\\b", "\\bsynchronized\\b", "\\bpackage\\b", "Exact\\b", "System\\.(?!arraycopy\\()",
-            "\\binstanceof\\b", "\\bvar\\b", "String\\.", "Integer\\.(?!bitCount\\()", "Math\\.(?!min\\(|max\\(|abs\\()", "@\\w+");
+            "\\binstanceof\\b", "\\bvar\\b", "String\\.",
+            "Integer\\.(?!bitCount\\()", "Math\\.(?!min\\(|max\\(|abs\\()", "@\\w+");
 
     private FormTest() {
     }
