@@ -1,52 +1,67 @@
+import java.util.function.Consumer;
+
 /** Counts the answers that are not the ones that are due. */
 final class Check {
+    private static final int MOST_TOLD = 40;
+    private static String sentence = "";
     private static int wrong = 0;
 
     private Check() {
     }
 
-    static void due(String call, long got, long want) {
-        if (got != want) {
-            tell(call + " answered " + got + ", due is " + want);
-        }
+    /** What is told from here on is told of this sentence. */
+    static void begin(String newSentence) {
+        sentence = newSentence;
     }
 
-    static void due(String call, String got, String want) {
+    static void due(String call, Object got, Object want) {
         if (!want.equals(got)) {
             tell(call + " answered " + got + ", due is " + want);
         }
     }
 
-    static void due(String call, boolean got, boolean want) {
-        if (got != want) {
-            tell(call + " answered " + got + ", due is " + want);
-        }
+    static void due(String call, long got, long want) {
+        due(call, (Object) got, (Object) want);
     }
 
-    static void throwsDue(String call, Class<? extends Exception> want, Runnable run) {
+    /** The call must throw this on x, and leave it as it was. */
+    static void refused(Class<? extends Exception> due, String call, Grainwright x, Consumer<Grainwright> calling) {
+        String before = Pieces.state(x);
+        String thrown = "nothing";
         try {
-            run.run();
+            calling.accept(x);
         } catch (RuntimeException e) {
-            if (e.getClass() != want) {
-                tell(call + " throws " + e + ", due is " + want.getSimpleName());
-            }
-            return;
+            thrown = e.getClass().getSimpleName();
         }
-        tell(call + " throws nothing, due is " + want.getSimpleName());
+        due(call + " throws", thrown, due.getSimpleName());
+        due(call + " leaves", Pieces.state(x), before);
     }
 
-    static void illegal(String call, Runnable run) {
-        throwsDue(call, IllegalArgumentException.class, run);
+    /** The call must throw IllegalArgumentException, with a LATTICE and without one. */
+    static void illegal(String call, Consumer<Grainwright> calling) {
+        refused(IllegalArgumentException.class, call, Pieces.full(), calling);
+        refused(IllegalArgumentException.class, call + " without a LATTICE", new Grainwright(), calling);
     }
 
-    static void outside(String call, Runnable run) {
-        throwsDue(call, IndexOutOfBoundsException.class, run);
+    /** The call must throw IllegalArgumentException on Pieces.full(); without a LATTICE something else is due. */
+    static void illegalOfCell(String call, Consumer<Grainwright> calling) {
+        refused(IllegalArgumentException.class, call, Pieces.full(), calling);
+    }
+
+    /** The call must throw IndexOutOfBoundsException, with a LATTICE and without one. */
+    static void outside(String call, Consumer<Grainwright> calling) {
+        refused(IndexOutOfBoundsException.class, call, Pieces.full(), calling);
+        outsideWithoutLattice(call, calling);
+    }
+
+    static void outsideWithoutLattice(String call, Consumer<Grainwright> calling) {
+        refused(IndexOutOfBoundsException.class, call + " without a LATTICE", new Grainwright(), calling);
     }
 
     static void tell(String text) {
         wrong++;
-        if (wrong <= 40) {
-            System.out.println(text);
+        if (wrong <= MOST_TOLD) {
+            System.out.println((sentence.isEmpty() ? "" : sentence + "\n    ") + text);
         }
     }
 
@@ -55,28 +70,5 @@ final class Check {
         if (wrong != 0) {
             System.exit(1);
         }
-    }
-
-    /** A LATTICE of these rows, as picture() tells them; the ROW is begun anew with 7. */
-    static Grainwright of(String... rows) {
-        Grainwright x = new Grainwright();
-        lay(x, rows);
-        return x;
-    }
-
-    static void lay(Grainwright x, String... rows) {
-        x.lattice(rows[0].length(), rows.length, 1);
-        int cell = 0;
-        for (String row : rows) {
-            for (char sign : row.toCharArray()) {
-                if (sign == '*') {
-                    x.pin(cell);
-                } else {
-                    x.mark(cell, sign - '0');
-                }
-                cell++;
-            }
-        }
-        x.seed(7);
     }
 }

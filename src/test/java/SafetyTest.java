@@ -38,25 +38,6 @@ public final class SafetyTest {
         return face;
     }
 
-    /** All that can be told of an object, what digest() leaves out (MISFITS, CURVE, and ETCH), too. */
-    private static String state(Grainwright x) {
-        StringBuilder text = new StringBuilder();
-        text.append(x.digest()).append(x.picture()).append(x.etched());
-        for (int degree = 0; degree <= 9; degree++) {
-            int time = x.curve(degree, 1);
-            x.curve(degree, time);
-            text.append(' ').append(time);
-        }
-        for (int one = 1; one <= 9; one++) {
-            for (int other = one + 1; other <= 9; other++) {
-                int misfit = x.misfit(one, other, 1);
-                x.misfit(one, other, misfit);
-                text.append(' ').append(misfit);
-            }
-        }
-        return text.toString();
-    }
-
     private static void runAtTheEdges(int run, Random chance) throws ReflectiveOperationException {
         List<Method> face = face();
         Grainwright x = new Grainwright();
@@ -76,7 +57,7 @@ public final class SafetyTest {
 
     private static void callAndLook(String told, Grainwright x, Method method, Object[] arguments)
             throws ReflectiveOperationException {
-        String before = state(x);
+        String before = Pieces.state(x);
         boolean isChanging = CHANGING.contains(method.getName());
         try {
             method.invoke(x, arguments);
@@ -87,7 +68,7 @@ public final class SafetyTest {
                 Check.tell(told + " throws " + thrown);
             }
         }
-        if (!isChanging && !before.equals(state(x))) {
+        if (!isChanging && !before.equals(Pieces.state(x))) {
             Check.tell(told + " changes something");
         }
         if (!x.isSound()) {
