@@ -80,7 +80,8 @@ final class AskSentences {
         }
     }
 
-    @Sentence(in = "Promise 17", says = "0 its MARK, 1 SIZE, 2 ROUND, 3 on how many GRAINS it BORDERS, 4 its smallest CELL, "
+    @Sentence(in = "Promise 17", says = "0 its MARK, 1 SIZE, 2 ROUND, 3 on how many GRAINS it BORDERS, 4 its "
+            + "smallest CELL, "
             + "5 WORK of it, 6 how many of its CELLS are HARD")
     static void ofGrain() {
         Grainwright x = Pieces.of("112", "1*2", "332");
@@ -103,6 +104,8 @@ final class AskSentences {
         for (int what = 0; what <= 6; what++) {
             Check.due("ofGrain(0, " + what + ") of one alone", alone.ofGrain(0, what), wantAlone[what]);
         }
+        Pieces.hardenAll(alone);
+        Check.due("ofGrain(0, 6) of all HARD", alone.ofGrain(0, 6), 4);
         Grainwright most = Pieces.checkerboard();
         Check.due("the last of 64 GRAINS", most.ofGrain(63, 4), 63);
         Check.due("one in the middle BORDERS on", most.ofGrain(9, 3), 4);
@@ -141,7 +144,8 @@ final class AskSentences {
         }
     }
 
-    @Sentence(in = "Promise 18", says = "0 ENERGY, 1 GRAINS, 2 SEEN GRAINS, 3 size by AREA, 4 by LINES, 5 by CHART, 6 BIAS, "
+    @Sentence(in = "Promise 18", says = "0 ENERGY, 1 GRAINS, 2 SEEN GRAINS, 3 size by AREA, 4 by LINES, 5 by "
+            + "CHART, 6 BIAS, "
             + "7 JUNCTIONS, 8 STRENGTH, 9 CUTS of all LINES, 10 PARTICLES, 11 HARD CELLS, 12 WORK of all CELLS, "
             + "13 CELLS, 14 numbers DRAWN ever")
     static void metal() {
@@ -172,7 +176,8 @@ final class AskSentences {
         Check.due("not a SEEN one", x.metal(15), 1);
     }
 
-    @Sentence(in = "Promise 18", says = "(0 of 3, 5 and 6, if all CELLS are PARTICLES; 0 of all but 14 without a LATTICE)")
+    @Sentence(in = "Promise 18", says = "(0 of 3, 5 and 6, if all CELLS are PARTICLES; 0 of all but 14 without "
+            + "a LATTICE)")
     static void metalOfParticlesAndWithoutALattice() {
         dueOfMetal("PARTICLES", Pieces.of("**", "**"), 0, 0, 0, 0, 200, 0, 0, 0, 36, 0, 4, 0, 0, 4, 4, 0);
         Grainwright etched = Pieces.of("**", "**");
@@ -209,7 +214,8 @@ final class AskSentences {
         Check.due("change(1, 2)", x.change(1, 2), (2 + 4) - 3);
     }
 
-    @Sentence(in = "Promise 19", says = "Returns CHANGE to the MARK of that, by that (HARD or not, of the same MARK, too; "
+    @Sentence(in = "Promise 19", says = "Returns CHANGE to the MARK of that, by that (HARD or not, of the same "
+            + "MARK, too; "
             + "0, if one of both is a PARTICLE).")
     static void changeOfHardOnesAndParticles() {
         Grainwright x = Pieces.of("123", "12*");

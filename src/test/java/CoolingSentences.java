@@ -33,7 +33,8 @@ final class CoolingSentences {
         }
     }
 
-    @Sentence(in = IN, says = "A COOLING goes from one of them down to another one, one by one, each for so many TICKS.")
+    @Sentence(in = IN, says = "A COOLING goes from one of them down to another one, one by one, each for so "
+            + "many TICKS.")
     static void oneDegreeAfterTheOther() {
         Grainwright x = Pieces.of("12", "34");
         for (int degree = 0; degree <= 9; degree++) {

@@ -47,6 +47,64 @@ final class FurnaceSentences {
         }
     }
 
+    /** For a STEP the HEAT and how many SWEEPS, and others that are near to these. */
+    private static void dueOfHeat(int step, int heat, int sweeps, int[][] others) {
+        int[] differing = new int[others.length];
+        for (int seed = 0; seed < 40; seed++) {
+            Grainwright x = manyMisfits(seed);
+            x.furnace(step + 1);
+            Check.due("STEP " + step + " from " + seed + " on", x.digest(), heated(seed, heat, sweeps));
+            for (int k = 0; k < others.length; k++) {
+                differing[k] += x.digest() != heated(seed, others[k][0], others[k][1]) ? 1 : 0;
+            }
+        }
+        for (int k = 0; k < others.length; k++) {
+            Check.due("STEP " + step + " can be told from a HEAT of " + others[k][0] + " and " + others[k][1]
+                    + " SWEEPS", differing[k] > 0, true);
+        }
+    }
+
+    private static Grainwright manyMisfits(int seed) {
+        Grainwright x = new Grainwright();
+        x.seed(seed);
+        x.lattice(8, 8, 9);
+        for (int mark = 1; mark <= 8; mark++) {
+            x.misfit(mark, mark + 1, 1 + (mark + seed) % 9);
+        }
+        x.work(5, 9);
+        x.pin(27);
+        x.pin(36);
+        return x;
+    }
+
+    private static long heated(int seed, int heat, int sweeps) {
+        Grainwright x = manyMisfits(seed);
+        x.heat(heat, sweeps);
+        return x.digest();
+    }
+
+    @Sentence(in = IN, says = "0 to hold (2 SWEEPS with a HEAT of 2)")
+    static void toHold() {
+        dueOfHeat(0, 2, 2, new int[][] {{1, 2}, {3, 2}, {2, 1}, {2, 3}});
+    }
+
+    @Sentence(in = IN, says = "1 to soak (2 SWEEPS with a HEAT of 6)")
+    static void toSoak() {
+        dueOfHeat(1, 6, 2, new int[][] {{5, 2}, {7, 2}, {6, 1}, {6, 3}});
+    }
+
+    @Sentence(in = IN, says = "2 to melt nearly (1 SWEEP with a HEAT of 9)")
+    static void toMelt() {
+        dueOfHeat(2, 9, 1, new int[][] {{8, 1}, {7, 1}, {9, 2}});
+    }
+
+    @Sentence(in = IN, says = "3 to ROLL")
+    static void toRoll() {
+        Grainwright x = Pieces.of("12", "34");
+        x.furnace(4);
+        Check.due("WORK of one ROLL", x.metal(12), 2 + 3 + 1 + 2);
+    }
+
     @Sentence(in = IN, says = "4 to be BORN with a BAR of 6")
     static void theBarIs6() {
         Grainwright x = Pieces.of("12", "34");
@@ -135,8 +193,7 @@ final class FurnaceSentences {
             differs |= first != x.best(0, true);
             Grainwright other = metal(4);
             other.seed(seed);
-            Check.due("the size that furnace(" + programme + ") comes to from " + seed + " on", other.furnace(programme),
-                    first);
+            Check.due("furnace(" + programme + ") from " + seed + " on", other.furnace(programme), first);
         }
         Check.due("best() takes none of the ROW", differs, false);
     }
@@ -160,7 +217,8 @@ final class FurnaceSentences {
         for (int programme = 0; programme <= 5; programme++) {
             Grainwright one = Pieces.freeLastCell(1);
             one.seed(19);
-            Check.due("furnace(" + programme + ")", one.furnace(programme), programme >= 1 && programme <= 3 ? 133 : 100);
+            int want = programme >= 1 && programme <= 3 ? 133 : 100;
+            Check.due("furnace(" + programme + ")", one.furnace(programme), want);
         }
         Grainwright x = Pieces.freeLastCell(1);
         x.seed(19);

@@ -59,7 +59,8 @@ final class GeneralSentences {
         Check.due("lattice(3, 2, 9) leaves", x.picture(), "888/334");
     }
 
-    @Sentence(in = IN, says = "where one of several is taken and nothing else is said, it is that with the smallest number")
+    @Sentence(in = IN, says = "where one of several is taken and nothing else is said, it is that with the "
+            + "smallest number")
     static void ofSeveralItIsTheSmallestNumber() {
         Grainwright cooled = Pieces.of("11", "11");
         cooled.curve(0, 1);

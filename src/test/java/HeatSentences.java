@@ -31,7 +31,8 @@ final class HeatSentences {
         }
     }
 
-    @Sentence(in = IN, says = "a CELL is DRAWN (the number modulo how many there are), then one of its NEIGHBOURS (the number modulo how many it has, in their order)")
+    @Sentence(in = IN, says = "a CELL is DRAWN (the number modulo how many there are), then one of its "
+            + "NEIGHBOURS (the number modulo how many it has, in their order)")
     static void aCellAndANeighbourAreDrawn() {
         for (int[] first : FIRST_TRIES) {
             int cell = first[0];
@@ -180,7 +181,8 @@ final class HeatSentences {
         }
     }
 
-    @Sentence(in = IN, says = "behind each SWEEP with a HEAT of 1 to 4 WORK of each CELL (HARD ones, too) is 1 less (0 at least)")
+    @Sentence(in = IN, says = "behind each SWEEP with a HEAT of 1 to 4 WORK of each CELL (HARD ones, too) is 1 "
+            + "less (0 at least)")
     static void workIsLessByHeatOf1To4() {
         for (int heat = 0; heat <= 9; heat++) {
             Grainwright x = Pieces.of("11", "11");

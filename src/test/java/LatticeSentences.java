@@ -32,7 +32,8 @@ final class LatticeSentences {
         Check.due("0, 3, 4, 11 of 4 by 3", x.picture(), "2113/4111/1115");
     }
 
-    @Sentence(in = IN, says = "NEIGHBOURS of a CELL are those above, on the right, below, and on the left of it (in this order)")
+    @Sentence(in = IN, says = "NEIGHBOURS of a CELL are those above, on the right, below, and on the left of it "
+            + "(in this order)")
     static void neighboursInTheirOrder() {
         Grainwright x = Pieces.of("121", "513", "141");
         int[] around = {2, 3, 4, 5};
@@ -192,7 +193,8 @@ final class LatticeSentences {
         Check.due("WORK of the other NEIGHBOUR is 20", x.change(1, 1), -12);
     }
 
-    @Sentence(in = IN, says = "A GRAIN is a set of CELLS with one MARK that hang together by NEIGHBOURS, as large as can be.")
+    @Sentence(in = IN, says = "A GRAIN is a set of CELLS with one MARK that hang together by NEIGHBOURS, as "
+            + "large as can be.")
     static void grainsHangTogetherByNeighbours() {
         Check.due("GRAINS at corners", Pieces.of("12", "21").metal(1), 4);
         Check.due("GRAINS at the edges", Pieces.of("121", "222", "121").metal(1), 5);

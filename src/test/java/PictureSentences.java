@@ -83,7 +83,8 @@ final class PictureSentences {
         Check.due("one CELL", Pieces.of("1*", "**").metal(3), 100);
     }
 
-    @Sentence(in = IN, says = "each row (from 0 on) and each column (behind these) is a LINE; CUTS of it are its pairs that are SEEN")
+    @Sentence(in = IN, says = "each row (from 0 on) and each column (behind these) is a LINE; CUTS of it are "
+            + "its pairs that are SEEN")
     static void linesAndTheirCuts() {
         Grainwright x = Pieces.of("1234", "11*4", "1133");
         int[] cuts = {3, 2, 1, 0, 1, 2, 1};
@@ -176,7 +177,8 @@ final class PictureSentences {
         }
     }
 
-    @Sentence(in = IN, says = "STRENGTH: 20, and (100 * CUTS of all LINES) / CELLS of the LATTICE, and 4 for each PARTICLE, "
+    @Sentence(in = IN, says = "STRENGTH: 20, and (100 * CUTS of all LINES) / CELLS of the LATTICE, and 4 for "
+            + "each PARTICLE, "
             + "and 3 for each HARD CELL, and WORK of all CELLS / 2, together.")
     static void strength() {
         Grainwright x = Pieces.of("11", "11");

@@ -330,7 +330,8 @@ final class TellSentences {
         Check.due("misfit(9, 8, 1)", x.misfit(9, 8, 1), 1);
     }
 
-    @Sentence(in = "Promise 7", says = "Throws `IllegalArgumentException` if one or other is not 1 to 9, both are the same, "
+    @Sentence(in = "Promise 7", says = "Throws `IllegalArgumentException` if one or other is not 1 to 9, both "
+            + "are the same, "
             + "or misfit is not 1 to 9")
     static void misfitThrows() {
         for (int wrong : Pieces.outside(1, 9)) {

@@ -1,4 +1,7 @@
 import java.math.BigInteger;
+import java.util.ArrayList;
+import java.util.List;
+import java.util.function.Function;
 import java.util.function.Supplier;
 
 /** The sentences of promises 26 to 31: what would be, and what sums it all up. */
@@ -23,6 +26,33 @@ final class WouldSentences {
             }
             Check.due("what would be leaves of " + kind, Pieces.state(x), before);
         }
+    }
+
+    @Sentence(in = "Promise 26", says = "what would be (nothing is changed)")
+    static void whatIsAskedThenIsOfWhatIs() {
+        List<Function<Grainwright, Object>> askings = List.of(x -> x.ofCell(0, 0), x -> x.ofCell(0, 4),
+                x -> x.ofGrain(0, 1), x -> x.metal(1), x -> x.metal(9), x -> x.metal(14), x -> x.change(0, 0),
+                x -> x.texture(1), x -> x.texture(2), x -> x.wall(1, 2), x -> x.line(0, true), x -> x.line(2, true),
+                x -> x.sided(1), x -> x.sided(2), x -> x.picture(), x -> x.etched(), x -> x.least(3, true),
+                x -> x.least(3, false), x -> x.wouldCool(9, 0, 1), x -> x.isSound(), x -> x.digest(), x -> x.pin(3),
+                x -> x.etch(1), x -> x.heat(0, 1), x -> x.roll(1), x -> x.born(1), x -> x.soften(), x -> x.seed(7));
+        for (int which = 0; which < askings.size(); which++) {
+            Object want = askings.get(which).apply(soonOfOneMark());
+            Grainwright x = soonOfOneMark();
+            Check.due("wouldHeat(0, 1, 1)", x.wouldHeat(0, 1, 1), 1);
+            Check.due("asking " + which + " behind wouldHeat()", askings.get(which).apply(x), want);
+            Grainwright y = soonOfOneMark();
+            y.best(6400, true);
+            Check.due("asking " + which + " behind best()", askings.get(which).apply(y), want);
+            Grainwright z = soonOfOneMark();
+            z.least(15, true);
+            Check.due("asking " + which + " behind least()", askings.get(which).apply(z), want);
+        }
+    }
+
+    /** By one SWEEP without HEAT all of it would have the MARK 1. */
+    private static Grainwright soonOfOneMark() {
+        return Pieces.of("12", "12");
     }
 
     @Sentence(in = "Promise 26", says = "Returns what metal() would tell behind these.")
@@ -117,11 +147,12 @@ final class WouldSentences {
         Check.due("only MARKS that there are", Pieces.of("45", "54").least(15, false), 4444);
         Check.due("of one MARK alone", Pieces.of("99", "99").least(15, false), 9999);
         Check.due("a MARK that only these CELLS have", Pieces.of("7*", "*9").least(9, false), 77);
-        Grainwright far = Pieces.of("211", "111", "113");
-        for (int mark = 1; mark <= 3; mark++) {
-            far.misfit(mark, mark % 3 + 1, 9);
+        Grainwright now = Pieces.of("12", "34");
+        Check.due("of four MARKS", now.least(15, false), 1111);
+        for (int cell = 0; cell < 4; cell++) {
+            now.mark(cell, 5);
         }
-        Check.due("all others are no better", far.least(1, false), 1);
+        Check.due("MARKS that are gone are none", now.least(15, false), 5555);
         Grainwright between = Pieces.of("313", "121", "383");
         between.misfit(1, 2, 9);
         between.misfit(2, 8, 9);
@@ -197,7 +228,8 @@ final class WouldSentences {
         }
     }
 
-    @Sentence(in = "Promise 29", says = "Returns the fewest TICKS at each DEGREE, by which a COOLING would make so many CELLS HARD, "
+    @Sentence(in = "Promise 29", says = "Returns the fewest TICKS at each DEGREE, by which a COOLING would make "
+            + "so many CELLS HARD, "
             + "or more (1 to 50)")
     static void wouldCoolReturnsTheFewestTicks() {
         Grainwright x = new Grainwright();
@@ -300,7 +332,86 @@ final class WouldSentences {
         }
     }
 
-    @Sentence(in = "Promise 31", says = "metal() of 0 to 15; CELL by CELL ofCell() of 0 to 5; GRAIN by GRAIN ofGrain() of 0 to 6; "
+    /** Metals of all kinds, as they are behind a few STEPS. */
+    private static List<Grainwright> sound() {
+        List<Grainwright> all = new ArrayList<>();
+        for (int etch = 1; etch <= 9; etch += 4) {
+            for (int kind = 0; kind < 6; kind++) {
+                Grainwright x = FurnaceSentences.metal(kind);
+                x.etch(etch);
+                x.furnace(43 + 36 * kind % 180);
+                x.heat(8, 1);
+                all.add(x);
+            }
+        }
+        all.addAll(List.of(Pieces.full(), Pieces.checkerboard(), Pieces.of("**", "**"), Pieces.of("1*", "*1")));
+        return all;
+    }
+
+    @Sentence(in = "Promise 30", says = "SIZES of all GRAINS and PARTICLES together are all CELLS")
+    static void sizesAndParticlesAreAllCells() {
+        for (Grainwright x : sound()) {
+            int sum = x.metal(10);
+            int grains = x.metal(1);
+            for (int grain = 0; grain < grains; grain++) {
+                sum += x.ofGrain(grain, 1);
+            }
+            Check.due("SIZES and PARTICLES of " + x.picture(), sum, x.metal(13));
+        }
+    }
+
+    @Sentence(in = "Promise 30", says = "SEEN GRAINS are no more than GRAINS")
+    static void seenGrainsAreNoMore() {
+        for (Grainwright x : sound()) {
+            int seen = x.metal(2);
+            Check.due("SEEN GRAINS of " + x.picture(), seen <= x.metal(1), true);
+            Check.due("SEEN GRAINS by ETCH 1 of " + x.picture(), x.etch(1), x.metal(1));
+        }
+    }
+
+    @Sentence(in = "Promise 30", says = "no PARTICLE has WORK, or is HARD; WORK is 0 to 20")
+    static void workAndHardnessOfCells() {
+        for (Grainwright x : sound()) {
+            int cells = x.metal(13);
+            for (int cell = 0; cell < cells; cell++) {
+                int work = x.ofCell(cell, 1);
+                Check.due("WORK of " + cell + " is 0 to 20", work >= 0 && work <= 20, true);
+                if (x.ofCell(cell, 0) == 0) {
+                    Check.due("WORK of the PARTICLE " + cell, work, 0);
+                    Check.due("HARD or not, the PARTICLE " + cell, x.ofCell(cell, 2), 0);
+                }
+            }
+        }
+    }
+
+    @Sentence(in = "Promise 30", says = "ENERGY is 0 or more; CUTS are all pairs that are SEEN")
+    static void energyAndCuts() {
+        for (Grainwright x : sound()) {
+            Check.due("ENERGY of " + x.picture(), x.metal(0) >= 0, true);
+            int cuts = 0;
+            int cells = x.metal(13);
+            int wide = x.picture().indexOf('/');
+            for (int line = 0; line < wide + cells / wide; line++) {
+                cuts += x.line(line, true);
+            }
+            Check.due("CUTS of " + x.picture(), x.metal(9), cuts);
+            // By ETCH 1 all pairs of different MARKS are SEEN, and those with one PARTICLE.
+            x.etch(1);
+            int pairs = 0;
+            for (int one = 1; one <= 9; one++) {
+                for (int other = one + 1; other <= 9; other++) {
+                    pairs += x.wall(one, other);
+                }
+            }
+            for (int cell = 0; cell < cells; cell++) {
+                pairs += x.ofCell(cell, 0) == 0 ? x.ofCell(cell, 3) : 0;
+            }
+            Check.due("CUTS by ETCH 1 of " + x.picture(), x.metal(9), pairs);
+        }
+    }
+
+    @Sentence(in = "Promise 31", says = "metal() of 0 to 15; CELL by CELL ofCell() of 0 to 5; GRAIN by GRAIN "
+            + "ofGrain() of 0 to 6; "
             + "MARK by MARK TEXTURE; LINE by LINE its CUTS; sided() of 0 to 6; "
             + "the number of the ROW that would be DRAWN next; 1 if isSound(), otherwise 0")
     static void digestOfAllNumbers() {
@@ -358,7 +469,8 @@ final class WouldSentences {
         return d;
     }
 
-    @Sentence(in = "Promise 31", says = "A number d starts with 58288; for each of the following numbers v, d becomes d * 31 + v, "
+    @Sentence(in = "Promise 31", says = "A number d starts with 58288; for each of the following numbers v, d "
+            + "becomes d * 31 + v, "
             + "which wraps around as a 64-bit integer")
     static void digestWrapsAround() {
         BigInteger want = BigInteger.valueOf(58288);
