@@ -1,6 +1,7 @@
 import java.io.IOException;
 import java.lang.reflect.InvocationTargetException;
 import java.lang.reflect.Method;
+import java.nio.file.Files;
 import java.nio.file.Path;
 import java.util.Arrays;
 import java.util.Comparator;
@@ -19,7 +20,9 @@ public final class SentencesTest {
     }
 
     public static void main(String[] args) throws IOException, IllegalAccessException {
-        Document document = new Document(Path.of(args[1]));
+        Path path = Path.of(args[1]);
+        boolean isThere = Files.isReadable(path);
+        Document document = isThere ? new Document(path) : null;
         int tests = 0;
         for (Class<?> group : GROUPS) {
             Method[] methods = group.getDeclaredMethods();
@@ -31,14 +34,18 @@ public final class SentencesTest {
                 }
             }
         }
-        document.tellUntested();
-        Check.end("SentencesTest, " + tests + " tests");
+        if (isThere) {
+            document.tellUntested();
+        }
+        Check.end("SentencesTest, " + tests + " tests" + (isThere ? "" : ", no document to hold them against"));
     }
 
     private static void run(Method test, Document document) throws IllegalAccessException {
         Sentence sentence = test.getAnnotation(Sentence.class);
         Check.begin(sentence.in() + ": " + sentence.says() + " (" + test.getName() + ")");
-        document.quote(sentence);
+        if (document != null) {
+            document.quote(sentence);
+        }
         try {
             test.invoke(null);
         } catch (InvocationTargetException e) {
