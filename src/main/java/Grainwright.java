@@ -1345,8 +1345,8 @@ public final class Grainwright {
                 if ((cells >> bit & 1) == 0) {
                     continue;
                 }
-                // What is no CELL has the MARK of a PARTICLE.
-                if (bit >= CHOOSABLE_CELLS || piece.markAt(bit) == PARTICLE || piece.hardAt(bit) == 1) {
+                boolean isCell = bit < CHOOSABLE_CELLS && shape.holds(bit);
+                if (!isCell || piece.markAt(bit) == PARTICLE || piece.hardAt(bit) == 1) {
                     return false;
                 }
             }

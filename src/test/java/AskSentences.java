@@ -58,6 +58,9 @@ final class AskSentences {
         for (int cell = 0; cell < 6; cell++) {
             Check.due("ofCell(" + cell + ", 5)", x.ofCell(cell, 5), want[cell]);
         }
+        Grainwright most = Pieces.of("121", "212", "121");
+        most.misfit(1, 2, 9);
+        Check.due("the most", most.ofCell(4, 5), 36);
     }
 
     @Sentence(in = "Promise 16", says = "Throws `IndexOutOfBoundsException` if there is no such CELL")
@@ -109,6 +112,24 @@ final class AskSentences {
         Grainwright most = Pieces.checkerboard();
         Check.due("the last of 64 GRAINS", most.ofGrain(63, 4), 63);
         Check.due("one in the middle BORDERS on", most.ofGrain(9, 3), 4);
+    }
+
+    @Sentence(in = "Promise 17", says = "1 SIZE, 2 ROUND, 3 on how many GRAINS it BORDERS")
+    static void ofTheGreatestGrains() {
+        Grainwright all = Pieces.utmost();
+        int[] wantAll = {64, 0, 0, 0, 64 * 20, 64};
+        for (int what = 1; what <= 6; what++) {
+            Check.due("ofGrain(0, " + what + ") of 64 CELLS", all.ofGrain(0, what), wantAll[what - 1]);
+        }
+        Grainwright comb = Pieces.comb();
+        // All seven pairs in each row but the first, and four below the first.
+        int[] wantComb = {36, 7 * 7 + 4, 28, 0, 0, 0};
+        for (int what = 1; what <= 6; what++) {
+            Check.due("ofGrain(0, " + what + ") of a comb", comb.ofGrain(0, what), wantComb[what - 1]);
+        }
+        Check.due("sided(28) of a comb", comb.sided(28), 1);
+        Check.due("sided(3) of a comb", comb.sided(3), 20);
+        Check.due("sided(2) of a comb", comb.sided(2), 8);
     }
 
     @Sentence(in = "Promise 17", says = "Throws `IndexOutOfBoundsException` if there is no such GRAIN")
@@ -163,6 +184,44 @@ final class AskSentences {
         // SEEN: 2 and 3 twice, 1 and 4, the PARTICLE twice; GRAINS by these: one, by way of 1 and 2, 2 and 4, 5 and 3.
         dueOfMetal("etch 2", x, 28, 5, 1, 800, 1800 / (5 + 6), 0, 160 - 800, 3,
                 20 + 55 + 4 + 6 + 3, 5, 1, 2, 7, 9, 9, 2);
+    }
+
+    @Sentence(in = "Promise 18", says = "0 ENERGY, 1 GRAINS, 2 SEEN GRAINS, 3 size by AREA, 4 by LINES, 5 by "
+            + "CHART, 6 BIAS")
+    static void metalOfTheGreatestNumbers() {
+        // DRAWN: 64.
+        dueOfMetal("64 CELLS, HARD, with all WORK", Pieces.utmost(), 2 * 64 * 20, 1, 1, 6400, 12800 / 16, 0, 0, 0,
+                20 + 3 * 64 + 32 * 20, 0, 0, 64, 64 * 20, 64, 64, 64);
+        Grainwright board = Pieces.checkerboard();
+        board.misfit(1, 2, 9);
+        for (int cell = 0; cell < 64; cell++) {
+            board.work(cell, 20);
+        }
+        board.etch(9);
+        dueOfMetal("64 GRAINS", board, 112 * 9 + 2 * 64 * 20, 64, 64, 100, 12800 / (112 + 16), 6, 0, 0,
+                20 + 175 + 32 * 20, 112, 0, 0, 64 * 20, 64, 64, 1);
+        board.misfit(1, 2, 8);
+        dueOfMetal("64 GRAINS that are one", board, 112 * 8 + 2 * 64 * 20, 64, 1, 6400, 12800 / 16, 0, 100 - 6400, 0,
+                20 + 32 * 20, 0, 0, 0, 64 * 20, 64, 64, 1);
+        Grainwright three = Pieces.of("12312312", "31231231", "23123123", "12312312", "31231231", "23123123",
+                "12312312", "31231231");
+        Check.due("JUNCTIONS, all of 49", three.metal(7), 49);
+        Grainwright particles = Pieces.checkerboard();
+        for (int cell = 0; cell < 64; cell++) {
+            particles.pin(cell);
+        }
+        dueOfMetal("64 PARTICLES", particles, 0, 0, 0, 0, 12800 / 16, 0, 0, 0, 20 + 4 * 64, 0, 64, 0, 0, 64, 64, 0);
+    }
+
+    @Sentence(in = "Promise 18", says = "14 numbers DRAWN ever")
+    static void metalOfManyNumbersDrawn() {
+        Grainwright x = new Grainwright();
+        x.lattice(8, 8, 1);
+        for (int call = 0; call < 300; call++) {
+            x.heat(5, 12);
+        }
+        Check.due("DRAWN by 300 calls of 1536", x.metal(14), 64 + 300 * 12 * 128);
+        Check.due("seed() tells them, too", x.seed(1), 64 + 300 * 12 * 128);
     }
 
     @Sentence(in = "Promise 18", says = "15 the greatest SIZE of a GRAIN (0 without any)")
@@ -236,6 +295,22 @@ final class AskSentences {
         Check.due("of a PARTICLE by one without WORK", x.change(5, 1), 0);
         Check.due("of a PARTICLE", x.change(5, 0), 0);
         Check.due("of a PARTICLE to a PARTICLE", Pieces.of("**", "12").change(0, 0), 0);
+    }
+
+    @Sentence(in = "Promise 19", says = "Returns CHANGE to the MARK of that, by that")
+    static void changeFromTheLeastToTheMost() {
+        Grainwright least = Pieces.of("232", "313", "232");
+        for (int cell = 1; cell < 9; cell += 2) {
+            least.mark(cell, 3);
+        }
+        least.misfit(1, 3, 9);
+        least.work(4, 20);
+        for (int neighbour = 0; neighbour < 4; neighbour++) {
+            Check.due("change(4, " + neighbour + "), the least", least.change(4, neighbour), -4 * 9 - 2 * 20);
+        }
+        Grainwright most = Pieces.of("121", "313", "131");
+        most.misfit(2, 3, 9);
+        Check.due("change(4, 0), the most", most.change(4, 0), 3 * 9 - 4);
     }
 
     @Sentence(in = "Promise 19",
@@ -354,7 +429,10 @@ final class AskSentences {
         }
         Check.due("sided(0) of two that are alone", Pieces.of("1*", "*1").sided(0), 2);
         Check.due("sided(0) of PARTICLES", Pieces.of("**", "**").sided(0), 0);
-        Check.due("sided(MAX_VALUE)", x.sided(Integer.MAX_VALUE), 0);
+        for (int many : new int[] {7, 8, 16, 32, 64, 128, 256, 1 << 16, 1 << 30, Integer.MAX_VALUE}) {
+            Check.due("sided(" + many + ") of five", x.sided(many), 0);
+            Check.due("sided(" + many + ") of one alone", Pieces.of("11", "11").sided(many), 0);
+        }
         Check.due("sided(0) without a LATTICE", new Grainwright().sided(0), 0);
         Grainwright most = Pieces.checkerboard();
         Check.due("sided(4) of the most", most.sided(4), 36);

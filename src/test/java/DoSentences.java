@@ -109,6 +109,12 @@ final class DoSentences {
             x.work(cell, cell == 4 ? 0 : 20);
         }
         Check.due("born(20) of all but a PARTICLE", x.born(20), 8);
+        Grainwright all = Pieces.checkerboard();
+        all.roll(1);
+        all.seed(7);
+        Check.due("born(1) of 64", all.born(1), 64);
+        Check.due("born(1) of 64 leaves", all.picture(),
+                "88833436/46761982/15212587/53824977/76346361/82836951/42698837/36653652");
         Check.due("born(1) of PARTICLES", Pieces.of("**", "**").born(1), 0);
         Check.due("born(1) without a LATTICE", new Grainwright().born(1), 0);
     }
@@ -233,6 +239,7 @@ final class DoSentences {
         Pieces.hardenAll(x);
         x.pin(2);
         Check.due("soften() of all but a PARTICLE", x.soften(), 3);
+        Check.due("soften(), the most", Pieces.utmost().soften(), 64);
         Check.due("soften() without a LATTICE", new Grainwright().soften(), 0);
     }
 
@@ -257,6 +264,7 @@ final class DoSentences {
         Grainwright etched = Pieces.of("12", "34");
         etched.etch(2);
         Check.due("furnace(0) by ETCH 2", etched.furnace(0), 400);
+        Check.due("furnace(0), the most", Pieces.utmost().furnace(0), 6400);
         Check.due("furnace(215) of PARTICLES", Pieces.of("**", "**").furnace(215), 0);
         Check.due("furnace(215) without a LATTICE", new Grainwright().furnace(215), 0);
     }

@@ -64,7 +64,7 @@ final class FurnaceSentences {
         }
     }
 
-    private static Grainwright manyMisfits(int seed) {
+    static Grainwright manyMisfits(int seed) {
         Grainwright x = new Grainwright();
         x.seed(seed);
         x.lattice(8, 8, 9);
@@ -179,6 +179,34 @@ final class FurnaceSentences {
                 Check.due(of + ", its size", x.best(aim, true), sizes[want]);
             }
         }
+    }
+
+    @Sentence(in = IN, says = "The BEST PROGRAMME for an aim: by which size by AREA differs the least from the aim")
+    static void theBestForTheGreatestAim() {
+        int[] seeds = {0, 4, 21, 26};
+        int[] want = {1, 43, 7, 2};
+        for (int k = 0; k < seeds.length; k++) {
+            Grainwright x = twoGrainsOf64(seeds[k]);
+            Check.due("best(6400, false) from " + seeds[k] + " on", x.best(6400, false), want[k]);
+            Check.due("best(6400, true) from " + seeds[k] + " on", x.best(6400, true), 6400);
+            Check.due("best(4800, true), as near to 3200", x.best(4800, true), 3200);
+            Check.due("best(4801, true), nearer to 6400", x.best(4801, true), 6400);
+            for (int programme = 0; programme < want[k]; programme++) {
+                if (isProgramme(programme)) {
+                    int size = twoGrainsOf64(seeds[k]).furnace(programme);
+                    Check.due("furnace(" + programme + ") is below", size < 6400, true);
+                }
+            }
+            Check.due("furnace(" + want[k] + ")", twoGrainsOf64(seeds[k]).furnace(want[k]), 6400);
+        }
+    }
+
+    private static Grainwright twoGrainsOf64(int seed) {
+        Grainwright x = new Grainwright();
+        x.lattice(8, 8, 1);
+        x.mark(63, 2);
+        x.seed(seed);
+        return x;
     }
 
     @Sentence(in = IN, says = "done from here on (with the ROW as it is)")

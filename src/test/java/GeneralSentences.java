@@ -1,3 +1,6 @@
+import java.util.List;
+import java.util.function.Function;
+
 /** The sentences ahead of part 1: calls, numbers, exceptions, and the ROW. */
 final class GeneralSentences {
     private static final String IN = "Description";
@@ -18,6 +21,24 @@ final class GeneralSentences {
         }
         Check.due("the 511th call, metal(14)", x.metal(14), model.metal(14));
         Check.due("the 512th call, digest()", x.digest(), model.digest());
+    }
+
+    @Sentence(in = "What it is", says = "An object is used for at most 512 calls after it has been made")
+    static void each512thCallIsAnsweredAsTheFirst() {
+        List<Function<Grainwright, Object>> askings = List.of(x -> x.ofCell(7, 5), x -> x.ofGrain(0, 2),
+                x -> x.metal(8), x -> x.change(7, 1), x -> x.texture(8), x -> x.wall(8, 3), x -> x.line(1, true),
+                x -> x.sided(1), x -> x.picture(), x -> x.etched(), x -> x.wouldHeat(9, 4, 14), x -> x.best(300, false),
+                x -> x.least(7, false), x -> x.wouldCool(9, 0, 3), x -> x.isSound(), x -> x.digest(), x -> x.seed(5),
+                x -> x.mark(2, 8), x -> x.work(3, 0), x -> x.misfit(1, 2, 1), x -> x.etch(1), x -> x.born(1),
+                x -> x.curve(9, 50), x -> x.cool(0, 0, 1), x -> x.soften(), x -> x.furnace(0));
+        for (int which = 0; which < askings.size(); which++) {
+            Grainwright x = new Grainwright();
+            x.lattice(4, 3, 9);
+            Object first = askings.get(which).apply(x);
+            for (int call = 3; call <= 512; call++) {
+                Check.due("call " + call + " of asking " + which, askings.get(which).apply(x), first);
+            }
+        }
     }
 
     @Sentence(in = IN, says = "what is divided is rounded down")

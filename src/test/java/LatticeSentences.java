@@ -50,21 +50,26 @@ final class LatticeSentences {
 
     @Sentence(in = IN, says = "as far as they are in the LATTICE")
     static void neighboursAreInTheLattice() {
-        int[][] sizes = {{2, 2}, {2, 8}, {8, 2}, {3, 3}, {8, 8}, {5, 4}};
-        for (int[] size : sizes) {
-            Grainwright x = new Grainwright();
-            x.lattice(size[0], size[1], 1);
-            for (int cell = 0; cell < size[0] * size[1]; cell++) {
-                int row = cell / size[0];
-                int column = cell % size[0];
-                int many = (row > 0 ? 1 : 0) + (row < size[1] - 1 ? 1 : 0)
-                        + (column > 0 ? 1 : 0) + (column < size[0] - 1 ? 1 : 0);
-                int found = 0;
-                while (found < 6 && hasNeighbour(x, cell, found)) {
-                    found++;
-                }
-                Check.due("NEIGHBOURS of " + cell + " in " + size[0] + " by " + size[1], found, many);
+        for (int wide = 2; wide <= 8; wide++) {
+            for (int high = 2; high <= 8; high++) {
+                dueOfNeighbours(wide, high);
             }
+        }
+    }
+
+    private static void dueOfNeighbours(int wide, int high) {
+        Grainwright x = new Grainwright();
+        x.lattice(wide, high, 1);
+        for (int cell = 0; cell < wide * high; cell++) {
+            int row = cell / wide;
+            int column = cell % wide;
+            int many = (row > 0 ? 1 : 0) + (row < high - 1 ? 1 : 0)
+                    + (column > 0 ? 1 : 0) + (column < wide - 1 ? 1 : 0);
+            int found = 0;
+            while (found < 6 && hasNeighbour(x, cell, found)) {
+                found++;
+            }
+            Check.due("NEIGHBOURS of " + cell + " in " + wide + " by " + high, found, many);
         }
     }
 
@@ -79,15 +84,30 @@ final class LatticeSentences {
 
     @Sentence(in = IN, says = "as far as they are in the LATTICE")
     static void noNeighboursAcrossTheEdge() {
-        for (int cell = 0; cell < 9; cell++) {
-            Grainwright x = Pieces.of("111", "111", "111");
-            x.mark(cell, 2);
-            for (int other = 0; other < 9; other++) {
-                int far = Math.abs(cell / 3 - other / 3) + Math.abs(cell % 3 - other % 3);
-                Check.due("others beside " + other + ", if " + cell + " is one", x.ofCell(other, 3),
-                        cell == other ? (cell == 4 ? 4 : 3 - (cell + 1) % 2) : far == 1 ? 1 : 0);
+        for (int wide = 2; wide <= 8; wide++) {
+            for (int high = 2; high <= 8; high++) {
+                for (int cell = 0; cell < wide * high; cell++) {
+                    dueBesideOne(wide, high, cell);
+                }
             }
         }
+    }
+
+    private static void dueBesideOne(int wide, int high, int cell) {
+        Grainwright x = new Grainwright();
+        x.lattice(wide, high, 1);
+        x.mark(cell, 2);
+        int beside = 0;
+        for (int other = 0; other < wide * high; other++) {
+            int far = Math.abs(cell / wide - other / wide) + Math.abs(cell % wide - other % wide);
+            String of = " in " + wide + " by " + high;
+            if (other != cell) {
+                Check.due("others beside " + other + of + ", if " + cell + " is one", x.ofCell(other, 3),
+                        far == 1 ? 1 : 0);
+                beside += far == 1 ? 1 : 0;
+            }
+        }
+        Check.due("others beside " + cell + " in " + wide + " by " + high, x.ofCell(cell, 3), beside);
     }
 
     @Sentence(in = IN, says = "Each CELL has a MARK (1 to 9), or is a PARTICLE (MARK 0)")

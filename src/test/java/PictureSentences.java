@@ -197,6 +197,15 @@ final class PictureSentences {
         Check.due("a PARTICLE, with 2 CUTS", x.metal(8), 20 + 50 + 4 + 3 + 3);
         Check.due("7 CUTS of 6 CELLS", Pieces.of("121", "212").metal(8), 20 + 116);
         Check.due("PARTICLES alone", Pieces.of("**", "**").metal(8), 20 + 16);
+        Grainwright most = Pieces.checkerboard();
+        Check.due("112 CUTS of 64 CELLS", most.metal(8), 20 + 175);
+        for (int cell = 0; cell < 64; cell++) {
+            most.work(cell, 20);
+        }
+        most.curve(9, 1);
+        most.curve(8, 1);
+        most.cool(9, 8, 32);
+        Check.due("and all of them HARD, with WORK of 20", most.metal(8), 20 + 175 + 3 * 64 + 640);
     }
 
     @Sentence(in = IN, says = "TEXTURE of a MARK: its CELLS in thousandths of all CELLS.")

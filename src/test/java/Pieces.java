@@ -37,6 +37,23 @@ final class Pieces {
         return x;
     }
 
+    /** The greatest LATTICE, of one MARK alone; all of it has WORK of 20 and is HARD. */
+    static Grainwright utmost() {
+        Grainwright x = new Grainwright();
+        x.lattice(8, 8, 1);
+        x.roll(9);
+        x.roll(9);
+        x.curve(9, 1);
+        x.cool(9, 9, 50);
+        x.cool(9, 9, 14);
+        return x;
+    }
+
+    /** A GRAIN of the MARK 1 that goes round 28 others of one CELL each. */
+    static Grainwright comb() {
+        return of("11111111", "12121212", "13131313", "12121212", "13131313", "12121212", "13131313", "12121212");
+    }
+
     /** One of which nothing is as at first, and each ETCH sees another number of GRAINS. */
     static Grainwright full() {
         Grainwright x = of("12345678", "*******9", "99999999");

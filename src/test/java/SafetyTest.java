@@ -10,10 +10,12 @@ import java.util.Random;
 /**
  * What holds for all methods: an answer or an exception that the document names, whatever is asked;
  * one that throws, or only asks, changes nothing; and calls make next to no objects.
+ * No object gets more than 512 calls: what later ones answer is free.
  */
 public final class SafetyTest {
     private static final int[] EDGES = {Integer.MIN_VALUE, -1, 0, 1, 2, 3, 5, 8, 9, 10, 19, 20, 21, 63, 64, 65, 215,
         999, 1000, 6400, 1 << 29, 1 << 30, Integer.MAX_VALUE - 1, Integer.MAX_VALUE};
+    private static final int COUNTED = 500;
     private static final List<String> CHANGING = List.of("lattice", "seed", "mark", "pin", "work", "misfit", "etch",
             "heat", "roll", "born", "curve", "cool", "soften", "furnace");
 
@@ -41,9 +43,13 @@ public final class SafetyTest {
     private static void runAtTheEdges(int run, Random chance) throws ReflectiveOperationException {
         List<Method> face = face();
         Grainwright x = new Grainwright();
+        Grainwright twin = new Grainwright();
         for (int call = 0; call < 60; call++) {
             if (call % 15 == 3) {
-                x.lattice(2 + chance.nextInt(7), 2 + chance.nextInt(7), 1 + chance.nextInt(9));
+                int wide = 2 + chance.nextInt(7);
+                int high = 2 + chance.nextInt(7);
+                int marks = 1 + chance.nextInt(9);
+                Check.due("lattice of run " + run, x.lattice(wide, high, marks), twin.lattice(wide, high, marks));
             }
             Method method = face.get(chance.nextInt(face.size()));
             Object[] arguments = new Object[method.getParameterCount()];
@@ -51,13 +57,14 @@ public final class SafetyTest {
                 boolean isNumber = method.getParameterTypes()[k] == int.class;
                 arguments[k] = isNumber ? (Object) EDGES[chance.nextInt(EDGES.length)] : (Object) chance.nextBoolean();
             }
-            callAndLook("run " + run + ": " + method.getName() + Arrays.toString(arguments), x, method, arguments);
+            callAndLook("run " + run + ": " + method.getName() + Arrays.toString(arguments), x, twin, method, arguments);
         }
+        Check.due("what run " + run + " leaves", Pieces.state(x), Pieces.state(twin));
     }
 
-    private static void callAndLook(String told, Grainwright x, Method method, Object[] arguments)
+    /** The twin gets only the calls that may change something and do not throw. */
+    private static void callAndLook(String told, Grainwright x, Grainwright twin, Method method, Object[] arguments)
             throws ReflectiveOperationException {
-        String before = Pieces.state(x);
         boolean isChanging = CHANGING.contains(method.getName());
         try {
             method.invoke(x, arguments);
@@ -68,8 +75,11 @@ public final class SafetyTest {
                 Check.tell(told + " throws " + thrown);
             }
         }
-        if (!isChanging && !before.equals(Pieces.state(x))) {
-            Check.tell(told + " changes something");
+        if (isChanging) {
+            method.invoke(twin, arguments);
+        }
+        if (x.digest() != twin.digest()) {
+            Check.tell(told + " changes something that it may not");
         }
         if (!x.isSound()) {
             Check.tell(told + " leaves it unsound");
@@ -97,7 +107,7 @@ public final class SafetyTest {
         };
     }
 
-    /** 512 calls on one object: reflection and boxing take some of the room that is counted here. */
+    /** Reflection and boxing take some of the room that is counted here. */
     private static void countRoom(Method method) throws ReflectiveOperationException {
         Grainwright x = new Grainwright();
         x.lattice(8, 8, 9);
@@ -112,12 +122,12 @@ public final class SafetyTest {
                 (com.sun.management.ThreadMXBean) ManagementFactory.getThreadMXBean();
         method.invoke(x, arguments);
         long before = threads.getThreadAllocatedBytes(Thread.currentThread().getId());
-        for (int call = 0; call < 512; call++) {
+        for (int call = 0; call < COUNTED; call++) {
             method.invoke(x, arguments);
         }
         long taken = threads.getThreadAllocatedBytes(Thread.currentThread().getId()) - before;
-        if (taken > 512L * 2000L) {
-            Check.tell("512 calls of " + method.getName() + " took " + taken + " bytes");
+        if (taken > COUNTED * 2000L) {
+            Check.tell(COUNTED + " calls of " + method.getName() + " took " + taken + " bytes");
         }
     }
 }

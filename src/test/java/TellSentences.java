@@ -33,6 +33,45 @@ final class TellSentences {
         Check.due("a greater one", x.metal(10) + x.metal(11) + x.metal(12), 0);
     }
 
+    @Sentence(in = "Promise 2", says = "Makes a LATTICE anew, without PARTICLES, WORK, and HARD CELLS")
+    static void latticeOfAnotherForm() {
+        int[][] forms = {{8, 8}, {2, 2}, {2, 8}, {8, 2}, {5, 3}, {3, 5}, {4, 4}};
+        for (int[] first : forms) {
+            for (int[] then : forms) {
+                Grainwright x = new Grainwright();
+                x.lattice(first[0], first[1], 9);
+                x.roll(3);
+                x.pin(3);
+                Pieces.hardenAll(x);
+                x.seed(5);
+                x.lattice(then[0], then[1], 4);
+                Grainwright fresh = new Grainwright();
+                fresh.seed(5);
+                fresh.lattice(then[0], then[1], 4);
+                String call = then[0] + " by " + then[1] + " behind " + first[0] + " by " + first[1];
+                Check.due(call, toldOfForm(x), toldOfForm(fresh));
+            }
+        }
+    }
+
+    /** What hangs on the form: CELLS, their NEIGHBOURS, and LINES; then what heat makes of it. */
+    private static String toldOfForm(Grainwright x) {
+        StringBuilder text = new StringBuilder(x.picture());
+        int wide = text.indexOf("/");
+        int cells = x.metal(13);
+        for (int cell = 0; cell < cells; cell++) {
+            text.append(' ').append(x.ofCell(cell, 2)).append(x.ofCell(cell, 3)).append(x.ofCell(cell, 4));
+        }
+        for (int line = 0; line < wide + cells / wide; line++) {
+            text.append(' ').append(x.line(line, true)).append(' ').append(x.line(line, false));
+        }
+        for (int what = 0; what < 14; what++) {
+            text.append(' ').append(x.metal(what));
+        }
+        text.append(' ').append(x.heat(9, 3)).append(' ').append(x.picture()).append(' ').append(x.best(300, false));
+        return text.toString();
+    }
+
     @Sentence(in = "Promise 2", says = "CELL by CELL a MARK of 1 and (a DRAWN number modulo marks)")
     static void latticeDrawsMarks() {
         // DRAWN: 7, 142, 2437, 497, 281, 4800.
@@ -78,6 +117,9 @@ final class TellSentences {
         x.etch(9);
         x.seed(7);
         Check.due("lattice(2, 2, 9) by ETCH 9", x.lattice(2, 2, 9), 2);
+        Grainwright many = new Grainwright();
+        Check.due("lattice(8, 8, 9)", many.lattice(8, 8, 9), 52);
+        Check.due("GRAINS of it", many.metal(1), 52);
     }
 
     @Sentence(in = "Promise 2",

@@ -55,6 +55,44 @@ final class WouldSentences {
         return Pieces.of("12", "12");
     }
 
+    @Sentence(in = "Promise 26", says = "what would be (nothing is changed)")
+    static void whatWouldBeIsAskedAnew() {
+        List<Function<Grainwright, Object>> askings = List.of(x -> x.best(0, false), x -> x.best(0, true),
+                x -> x.best(700, false), x -> x.best(700, true), x -> x.best(6400, false), x -> x.best(6400, true),
+                x -> x.least(1, true), x -> x.least(1, false), x -> x.least(7, true), x -> x.least(7, false),
+                x -> x.wouldHeat(3, 2, 0), x -> x.wouldHeat(9, 1, 3), x -> x.wouldHeat(0, 4, 14),
+                x -> x.wouldCool(9, 0, 1), x -> x.wouldCool(9, 8, 4));
+        for (int which = 0; which < askings.size(); which++) {
+            Grainwright often = new Grainwright();
+            for (int turn = 0; turn < TURNS; turn++) {
+                turn(often, turn);
+                Grainwright once = new Grainwright();
+                for (int before = 0; before <= turn; before++) {
+                    turn(once, before);
+                }
+                Object want = askings.get(which).apply(once);
+                Check.due("asking " + which + " again behind turn " + turn, askings.get(which).apply(often), want);
+            }
+        }
+    }
+
+    private static final int TURNS = 9;
+
+    /** One MARK alone, nine of them, few CELLS and many: each makes far other answers due than the one ahead. */
+    private static void turn(Grainwright x, int turn) {
+        switch (turn) {
+            case 0 -> x.lattice(8, 8, 1);
+            case 1 -> x.lattice(8, 8, 9);
+            case 2 -> x.roll(6);
+            case 3 -> x.lattice(2, 2, 9);
+            case 4 -> x.curve(9, 1);
+            case 5 -> x.lattice(3, 2, 1);
+            case 6 -> x.misfit(8, 9, 5);
+            case 7 -> x.lattice(4, 8, 9);
+            default -> x.pin(30);
+        }
+    }
+
     @Sentence(in = "Promise 26", says = "Returns what metal() would tell behind these.")
     static void wouldHeatReturnsMetal() {
         for (int kind = 3; kind <= 4; kind++) {
@@ -70,10 +108,26 @@ final class WouldSentences {
                 }
             }
         }
+        wouldHeatOfManyMisfits();
         for (int what = 0; what <= 15; what++) {
             Check.due("wouldHeat(9, 4, " + what + ") without a LATTICE", new Grainwright().wouldHeat(9, 4, what), 0);
         }
         Check.due("wouldHeat(0, 4, 14)", Pieces.of("11", "11").wouldHeat(0, 4, 14), 4 + 4 * 8);
+    }
+
+    /** By many MISFITS each HEAT makes of it what no other one does. */
+    private static void wouldHeatOfManyMisfits() {
+        for (int seed = 0; seed < 10; seed++) {
+            for (int heat = 0; heat <= 9; heat++) {
+                Grainwright x = FurnaceSentences.manyMisfits(seed);
+                Grainwright other = FurnaceSentences.manyMisfits(seed);
+                other.heat(heat, 3);
+                for (int what = 0; what <= 15; what++) {
+                    String call = "wouldHeat(" + heat + ", 3, " + what + ") from " + seed + " on";
+                    Check.due(call, x.wouldHeat(heat, 3, what), other.metal(what));
+                }
+            }
+        }
     }
 
     @Sentence(in = "Promise 26", says = "Throws `IllegalArgumentException` if heat is not 0 to 9, sweeps not 1 to 4, "
@@ -140,6 +194,12 @@ final class WouldSentences {
         Check.due("of all CELLS", y.least(15, true), 0);
         Grainwright best = Pieces.of("11", "11");
         Check.due("of what is the least", best.least(15, true), 0);
+        Grainwright most = Pieces.checkerboard();
+        most.misfit(1, 2, 9);
+        for (int cell = 0; cell < 64; cell++) {
+            most.work(cell, 20);
+        }
+        Check.due("of what is the most", most.least(1 << 29, true), (112 - 4) * 9 + 2 * 64 * 20);
     }
 
     @Sentence(in = "Promise 28", says = "if these CELLS had any MARKS that there are in the LATTICE now")
@@ -153,6 +213,25 @@ final class WouldSentences {
             now.mark(cell, 5);
         }
         Check.due("MARKS that are gone are none", now.least(15, false), 5555);
+        Grainwright nine = Pieces.of("123", "456", "789");
+        Check.due("of nine MARKS", nine.least(1, false), 2);
+        for (int cell = 0; cell < 9; cell++) {
+            nine.mark(cell, 8);
+        }
+        Check.due("of one that is left", nine.least(1, false), 8);
+        nine.mark(1, 9);
+        nine.misfit(8, 9, 9);
+        Check.due("between 8 and 9, all others gone", nine.least(1, false), 8);
+        Grainwright far = new Grainwright();
+        far.lattice(8, 8, 1);
+        far.mark(1, 2);
+        far.mark(8, 3);
+        for (int mark = 1; mark <= 3; mark++) {
+            far.misfit(mark, mark % 3 + 1, 9);
+        }
+        Check.due("CELL 0 between 2 and 3", far.least(1, false), 2);
+        far.mark(63, 5);
+        Check.due("CELL 0 by a MARK of the last CELL alone", far.least(1, false), 5);
         Grainwright between = Pieces.of("313", "121", "383");
         between.misfit(1, 2, 9);
         between.misfit(2, 8, 9);
@@ -225,6 +304,18 @@ final class WouldSentences {
         for (int wrong : wide) {
             Check.refused(IllegalArgumentException.class, "least(" + wrong + ", true) of 64 CELLS",
                     Pieces.checkerboard(), x -> x.least(wrong, true));
+        }
+    }
+
+    @Sentence(in = "Promise 28", says = "Throws `IllegalArgumentException` if cells is not such a set")
+    static void leastOfCellsThatAreGone() {
+        for (int cell = 6; cell < 30; cell++) {
+            int set = 1 << cell | 1;
+            Grainwright x = Pieces.checkerboard();
+            x.lattice(3, 2, 1);
+            Check.refused(IllegalArgumentException.class, "least(" + set + ", true) of 6 CELLS, once 64", x,
+                    y -> y.least(set, true));
+            Check.due("least(33, false) of 6 CELLS, once 64", x.least(33, false), 11);
         }
     }
 
