@@ -569,9 +569,7 @@ public final class Grainwright {
             drawn = other.drawn;
         }
 
-        /** What is no CELL is left as a PARTICLE without WORK. */
         void castAnew(int fromMarks) {
-            Arrays.fill(marks, PARTICLE);
             Arrays.fill(works, 0);
             Arrays.fill(hards, 0);
             for (int cell = 0; cell < shape.cells(); cell++) {

@@ -109,6 +109,13 @@ final class WouldSentences {
             }
         }
         wouldHeatOfManyMisfits();
+        Grainwright hard = Pieces.checkerboard();
+        Check.due("wouldHeat(9, 4, 1) of 64 that are free", hard.wouldHeat(9, 4, 1) < 64, true);
+        Pieces.hardenAll(hard);
+        Pieces.hardenAll(hard);
+        Check.due("HARD CELLS", hard.metal(11), 64);
+        Check.due("wouldHeat(9, 4, 1) of 64 that are HARD", hard.wouldHeat(9, 4, 1), 64);
+        Check.due("best(6400, true) of 64 that are HARD", hard.best(6400, true), 100);
         for (int what = 0; what <= 15; what++) {
             Check.due("wouldHeat(9, 4, " + what + ") without a LATTICE", new Grainwright().wouldHeat(9, 4, what), 0);
         }
