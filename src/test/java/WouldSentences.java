@@ -418,6 +418,14 @@ final class WouldSentences {
         Check.due("of PARTICLES", Pieces.of("**", "**").isSound(), true);
         Check.due("of the most GRAINS", Pieces.checkerboard().isSound(), true);
         Check.due("of all that can be told", Pieces.full().isSound(), true);
+        Check.due("of all WORK that can be, and all HARD", Pieces.utmost().isSound(), true);
+        Check.due("of a comb", Pieces.comb().isSound(), true);
+        for (int work = 0; work <= 20; work++) {
+            Grainwright worked = Pieces.of("12", "*3");
+            worked.work(0, work);
+            worked.work(3, 20 - work);
+            Check.due("with WORK of " + work, worked.isSound(), true);
+        }
         for (int etch = 1; etch <= 9; etch++) {
             Grainwright x = FurnaceSentences.metal(3);
             x.etch(etch);
