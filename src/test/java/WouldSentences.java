@@ -222,6 +222,12 @@ final class WouldSentences {
         Check.due("MARKS that are gone are none", now.least(15, false), 5555);
         Grainwright nine = Pieces.of("123", "456", "789");
         Check.due("of nine MARKS", nine.least(1, false), 2);
+        for (int one = 1; one <= 8; one++) {
+            for (int other = one + 1; other <= 8; other++) {
+                nine.misfit(one, other, 9);
+            }
+        }
+        Check.due("of nine MARKS the last one", nine.least(1, false), 9);
         for (int cell = 0; cell < 9; cell++) {
             nine.mark(cell, 8);
         }
