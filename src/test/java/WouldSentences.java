@@ -222,12 +222,6 @@ final class WouldSentences {
         Check.due("MARKS that are gone are none", now.least(15, false), 5555);
         Grainwright nine = Pieces.of("123", "456", "789");
         Check.due("of nine MARKS", nine.least(1, false), 2);
-        for (int one = 1; one <= 8; one++) {
-            for (int other = one + 1; other <= 8; other++) {
-                nine.misfit(one, other, 9);
-            }
-        }
-        Check.due("of nine MARKS the last one", nine.least(1, false), 9);
         for (int cell = 0; cell < 9; cell++) {
             nine.mark(cell, 8);
         }
@@ -235,6 +229,13 @@ final class WouldSentences {
         nine.mark(1, 9);
         nine.misfit(8, 9, 9);
         Check.due("between 8 and 9, all others gone", nine.least(1, false), 8);
+        Grainwright last = Pieces.of("123", "456", "789");
+        for (int one = 1; one <= 8; one++) {
+            for (int other = one + 1; other <= 8; other++) {
+                last.misfit(one, other, 9);
+            }
+        }
+        Check.due("of nine MARKS the last one", last.least(1, false), 9);
         Grainwright far = new Grainwright();
         far.lattice(8, 8, 1);
         far.mark(1, 2);
